@@ -145,6 +145,7 @@ final class SettingUpTest {
         DUE.is("5 from", x.more(0, -1, 5), -2);
         DUE.is("5 from", x.more(0, 1440, 1440), -2);
         DUE.is("5 to", x.more(0, 0, 1441), -2);
+        DUE.is("5 to", x.more(0, 800, 1441), -2);
         DUE.is("5 to", x.more(0, MAX, MIN), -2);
         DUE.is("5 errors change nothing", x.ofRoad(0, 4), 1);
         DUE.is("5 the day's end", x.more(0, 1439, 1440), 2);

@@ -203,6 +203,8 @@ final class TextsTest {
         for (int i = 0; i < spans.length; i++) {
             DUE.is("28 spans in the order of the day", x.ofRoad(0, 3 + i), spans[i]);
         }
+        write(x, "s0:0900-1000,0800-0900");
+        DUE.is("28 side by side", x.carryOut(), 1);
         write(x, "s0:0800-0900,0900-1000");
         DUE.is("28 side by side", x.carryOut(), 1);
         DUE.is("28 not strict", x.ofRoad(0, 3), 0);
@@ -231,8 +233,19 @@ final class TextsTest {
         DUE.is("28 what comes behind it is not", x.count(1), 0);
         DUE.is("28 the reason is set", x.count(3), 1);
         DUE.is("28 the pad is empty", x.wipe(), 0);
-        String[] none = {"w0+0;w0+1", "w0+1001;w0+1", "w1+1;w0+1", "g1>0;w0+1", "g0>1;w0+1", "x1:0-1;w0+1",
-            "x0:5-5;w0+1", "x0:2880-2880;w0+1", "s1:0000-0100;w0+1"};
+        x.road(1, 2, 5);
+        x.traveller(1, 7);
+        write(x, "g1>1");
+        DUE.is("28 traveller 1 goes", x.carryOut(), 1);
+        DUE.is("28 traveller 1 is there", x.ofTraveller(1, 0), 2);
+        write(x, "g0>1");
+        DUE.is("28 traveller 0 goes along road 1", x.carryOut(), 1);
+        DUE.is("28 traveller 0 is there", x.ofTraveller(0, 1), 130);
+        x.undo();
+        x.undo();
+        x.undo();
+        String[] none = {"w0+0;w0+1", "w0+1001;w0+1", "w1+1;w0+1", "g1>0;w0+1", "g0>2;w0+1", "x2:0-1;w0+1",
+            "x0:5-5;w0+1", "x0:2880-2880;w0+1", "s2:0000-0100;w0+1"};
         for (String text : none) {
             write(x, text);
             DUE.is("28 none of " + text, x.carryOut(), 0);

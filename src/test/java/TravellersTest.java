@@ -30,6 +30,7 @@ final class TravellersTest {
         DUE.is("8 time", x.traveller(0, -1), -2);
         DUE.is("8 time", x.traveller(0, 2881), -2);
         DUE.is("8 errors change nothing", x.count(2), 2);
+        DUE.is("8 two changes", x.count(5), 2);
         for (int i = 2; i < 10; i++) {
             DUE.is("8 up to 10", x.traveller(1, i), i);
         }
@@ -44,11 +45,12 @@ final class TravellersTest {
     private static void go() {
         GateRoads x = new GateRoads();
         x.road(0, 1, 100);
-        x.road(1, 0, 50);
         x.traveller(0, 300);
         x.close(0, 301, 2880);
         x.room(0, 0, 0, 0);
         DUE.is("9 the time then", x.go(0, 0), 400);
+        DUE.is("9 a change", x.count(5), 5);
+        x.road(1, 0, 50);
         int[] then = {1, 400, 400, 1, 0, 100, 0, 300};
         for (int what = 0; what < 8; what++) {
             DUE.is("9 what it is then, " + what, x.ofTraveller(0, what), then[what]);
@@ -198,6 +200,26 @@ final class TravellersTest {
         x.traveller(5, 2880);
         DUE.is("22 at the last minute", x.meet(4, 5, 0), 2880);
         DUE.is("22 no change", x.count(5), 6);
+        meetLate();
+    }
+
+    private static void meetLate() {
+        GateRoads x = new GateRoads();
+        x.traveller(0, 100);
+        x.traveller(0, 200);
+        DUE.is("22 not ahead of the other's time", x.meet(0, 1, 0), 200);
+        DUE.is("22 not ahead of the other's time", x.meet(1, 0, 0), 200);
+        x.road(1, 2, 80);
+        x.traveller(1, 2000);
+        x.traveller(2, 2880);
+        DUE.is("22 it waits up to the last minute", x.meet(2, 3, 0), 2880);
+        DUE.is("22 it waits up to the last minute", x.meet(2, 3, 1), 2);
+        DUE.is("23 the last road there is", x.arrives(2, 2), 2080);
+        x.close(0, 2000, 2800);
+        DUE.is("23 at the last minute", x.arrives(2, 2), 2880);
+        DUE.is("22 at the last minute", x.meet(2, 3, 1), 2);
+        x.close(0, 2800, 2801);
+        DUE.is("23 too late", x.arrives(2, 2), -6);
     }
 
     private static void meetWaiting() {

@@ -65,6 +65,8 @@ final class WaysTest {
         x.room(1, 0, 1440, 30);
         DUE.is("18 one waits over it", x.latest(0, 2, 119), 79);
         DUE.is("18 the same place", x.latest(3, 3, 77), 77);
+        DUE.is("18 by 0", x.latest(3, 3, 0), 0);
+        DUE.is("18 by 0", x.latest(0, 2, 0), -6);
         DUE.is("18 no way", x.latest(2, 0, 2880), -6);
         GateRoads y = new GateRoads();
         y.road(0, 1, 600);
@@ -112,6 +114,7 @@ final class WaysTest {
         x.road(0, 4, 1);
         DUE.is("19 a road of no such way", x.way(0, 3, 10, 1), 1);
         DUE.is("19 the same place", x.way(3, 3, 9, 0), 0);
+        DUE.is("19 the same place at the last minute", x.way(3, 3, 2880, 0), 0);
         for (int what = 1; what <= 3; what++) {
             DUE.is("19 the same place, " + what, x.way(3, 3, 9, what), -6);
         }
@@ -140,6 +143,10 @@ final class WaysTest {
         DUE.is("19 twice", x.way(0, 2, 0, 0), 3);
         x.room(1, 0, 0, 1000);
         DUE.is("19 twice", x.way(0, 2, 0, 0), 5);
+        DUE.is("19 an entry at the end of the wait", x.way(0, 2, 25, 1), 2);
+        DUE.is("19 an entry at the end of the wait", x.way(0, 2, 25, 2), 30);
+        DUE.is("19 from the other place", x.way(1, 2, 0, 0), 6);
+        DUE.is("19 nothing of the search before", x.way(0, 2, 0, 0), 5);
         DUE.is("19 as early", x.earliest(0, 2, 0), 80);
         DUE.is("20 there and around", x.reach(0, 0, 79), 3);
         DUE.is("21 all three", x.needed(0, 2, 0), 7);
@@ -158,6 +165,9 @@ final class WaysTest {
         DUE.is("20 all", x.reach(0, 80, 111), 7 + 128);
         DUE.is("20 only itself", x.reach(7, 0, 2880), 128);
         DUE.is("20 the last minute", x.reach(3, 2880, 2880), 8);
+        DUE.is("20 the first minute", x.reach(3, 0, 0), 8);
+        DUE.is("19 from the second to the last", x.way(1, 2, 100, 0), 1);
+        DUE.is("19 nothing of the search before", x.way(0, 2, 90, 0), 2);
     }
 
     private static void needed() {
@@ -170,6 +180,8 @@ final class WaysTest {
         DUE.is("21 the other comes later", x.needed(0, 2, 0), 3);
         DUE.is("21 either", x.needed(0, 2, 25), 1);
         DUE.is("21 the same place", x.needed(2, 2, 0), 0);
+        DUE.is("21 the same place at the last minute", x.needed(2, 2, 2880), 0);
+        DUE.is("21 none at the last minute", x.needed(0, 2, 2880), 0);
         DUE.is("21 no way", x.needed(2, 0, 0), 0);
         x.road(0, 2, 20);
         DUE.is("21 none by itself", x.needed(0, 2, 0), 0);
