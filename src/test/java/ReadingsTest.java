@@ -13,6 +13,11 @@ final class ReadingsTest {
         count();
         whyShut();
         whyShutOrder();
+        placeEdges();
+        roadEdges();
+        closureEdges();
+        travellerEdges();
+        countEdges();
         DUE.end();
     }
 
@@ -197,5 +202,132 @@ final class ReadingsTest {
         x.open(0, 0, 10, 1);
         DUE.is("16 2 of 2, 4, 5", x.whyShut(0, 2879), 2);
         DUE.is("16 at 2880 a day begins", x.whyShut(0, 2880), 3);
+    }
+
+    /** Two equal numbers are a room that is never open; the sets are of none, and of all that there can be. */
+    private static void placeEdges() {
+        int[][] rooms = {{0, 0, 0}, {1440, 1440, 1000}, {0, 1440, 0}, {1439, 1440, 1}, {0, 1, 999}, {720, 720, 500}};
+        for (int[] room : rooms) {
+            GateRoads x = new GateRoads();
+            DUE.is("2 the limit at first", x.room(3, room[0], room[1], room[2]), 1000);
+            for (int what = 0; what < 3; what++) {
+                DUE.is("11 the room, " + what, x.ofPlace(3, what), room[what]);
+                DUE.is("11 a room that was not changed, " + what, x.ofPlace(4, what), new int[] {0, 1440, 1000}[what]);
+            }
+            DUE.is("2 the previous limit", x.room(3, 0, 0, 7), room[2]);
+        }
+        GateRoads x = new GateRoads();
+        for (int i = 0; i < 24; i++) {
+            DUE.is("11 the roads from it", x.ofPlace(7, 3), (1 << i) - 1);
+            DUE.is("11 the roads to it", x.ofPlace(0, 4), (1 << i) - 1);
+            x.road(7, 0, 1);
+        }
+        DUE.is("11 all roads from it", x.ofPlace(7, 3), 0xffffff);
+        DUE.is("11 all roads to it", x.ofPlace(0, 4), 0xffffff);
+        for (int i = 0; i < 10; i++) {
+            DUE.is("11 the travellers there", x.ofPlace(7, 5), (1 << i) - 1);
+            x.traveller(7, 2880 - i);
+        }
+        DUE.is("11 all travellers, each at its own time", x.ofPlace(7, 5), 1023);
+        x.go(9, 23);
+        x.go(0, 23);
+        DUE.is("11 one that went", x.ofPlace(0, 5), 512);
+        DUE.is("11 one that could not", x.ofPlace(7, 5), 511);
+    }
+
+    /** NONE if there are not so many spans. */
+    private static void roadEdges() {
+        GateRoads x = new GateRoads();
+        x.road(7, 0, 600);
+        int[][] spans = {{0, 1440, -6, -6, -6, -6}, {1439, 1440, -6, -6, -6, -6}, {0, 1, 1439, 1440, -6, -6},
+            {0, 1, 1, 1439, 1439, 1440}, {5, 6, -6, -6, -6, -6}, {0, 5, 5, 6, -6, -6}, {0, 5, 5, 6, 6, 1440}};
+        int[] answers = {1, 1, 2, 3, 3, 2, 3};
+        for (int i = 0; i < spans.length; i++) {
+            int answer = i == 0 ? 1 : i == 1 ? x.open(0, 1439, 1440, 1) : i == 2 ? x.more(0, 0, 1) : i == 3 ? x.more(0, 1, 1439)
+                : i == 4 ? x.open(0, 5, 6, 0) : i == 5 ? x.more(0, 0, 5) : x.more(0, 6, 1440);
+            DUE.is("4, 5 the spans, " + i, answer, answers[i]);
+            DUE.is("12 strict, " + i, x.ofRoad(0, 3), i >= 1 && i <= 3 ? 1 : 0);
+            for (int what = 5; what <= 10; what++) {
+                DUE.is("12 what " + what + ", " + i, x.ofRoad(0, what), spans[i][what - 5]);
+            }
+            DUE.is("12 how many, " + i, x.ofRoad(0, 4), spans[i][2] < 0 ? 1 : spans[i][4] < 0 ? 2 : 3);
+        }
+        DUE.is("12 no closure", x.ofRoad(0, 11), 0);
+        for (int i = 1; i <= 20; i++) {
+            x.close(0, 0, 1);
+            DUE.is("12 its closures", x.ofRoad(0, 11), i);
+        }
+        DUE.is("12 not entered", x.ofRoad(0, 12), 0);
+        for (int i = 0; i < 10; i++) {
+            x.traveller(7, 1 + i);
+            x.go(i, 0);
+            DUE.is("12 entered", x.ofRoad(0, 12), i + 1);
+        }
+    }
+
+    private static void closureEdges() {
+        GateRoads x = new GateRoads();
+        x.road(0, 1, 1);
+        x.road(0, 1, 1);
+        DUE.is("6 one", x.close(1, 0, 1), 0);
+        DUE.is("7 the one", x.lift(0), 0);
+        DUE.is("7 none", x.lift(0), -1);
+        DUE.is("13 none", x.ofClosure(0, 0), -1);
+        for (int i = 0; i < 20; i++) {
+            x.close(i % 2, i, 2880 - i);
+        }
+        for (int i = 0; i < 20; i++) {
+            DUE.is("13 its road", x.ofClosure(0, 0), i % 2);
+            DUE.is("13 from", x.ofClosure(0, 1), i);
+            DUE.is("13 to", x.ofClosure(0, 2), 2880 - i);
+            DUE.is("13 the last one's", x.ofClosure(19 - i, 1), 19);
+            DUE.is("7 the first one", x.lift(0), 19 - i);
+            DUE.is("13 the number of the last is gone", x.ofClosure(19 - i, 1), -1);
+        }
+    }
+
+    /** 7, 4 and 5 together are 1, whatever it did, and what was undone of it. */
+    private static void travellerEdges() {
+        GateRoads x = new GateRoads();
+        x.road(6, 7, 600);
+        x.road(7, 6, 1);
+        x.traveller(6, 0);
+        int came = 0;
+        for (int i = 0; i < 4; i++) {
+            x.stay(0, 100);
+            DUE.is("14 when it came, having waited", x.ofTraveller(0, 2), came);
+            x.go(0, i % 2);
+            came = x.ofTraveller(0, 1);
+            DUE.is("14 when it came, just then", x.ofTraveller(0, 2), came);
+            DUE.is("14 where it is", x.ofTraveller(0, 0), 7 - i % 2);
+            DUE.is("14 how many roads", x.ofTraveller(0, 3), i + 1);
+            DUE.is("14 the minutes that it waited", x.ofTraveller(0, 4), 100 * (i + 1));
+            DUE.is("14 the minutes on roads", x.ofTraveller(0, 5), new int[] {600, 601, 1201, 1202}[i]);
+            DUE.is("14 all of its minutes", x.ofTraveller(0, 4) + x.ofTraveller(0, 5) + x.ofTraveller(0, 7), came);
+            DUE.is("14 where it began", x.ofTraveller(0, 6), 6);
+        }
+        x.undo();
+        DUE.is("14 all of its minutes, undone", x.ofTraveller(0, 4) + x.ofTraveller(0, 5), x.ofTraveller(0, 1));
+        x.traveller(7, 2880);
+        int[] last = {7, 2880, 2880, 0, 0, 0, 7, 2880};
+        for (int what = 0; what < 8; what++) {
+            DUE.is("14 at the last minute, " + what, x.ofTraveller(1, what), last[what]);
+        }
+    }
+
+    private static void countEdges() {
+        GateRoads x = Scene.full();
+        int[] most = {24, 20, 10, 1, 80, 6};
+        for (int what = 0; what < 6; what++) {
+            DUE.is("15 the most, " + what, x.count(what), most[what]);
+        }
+        x.wipe();
+        DUE.is("15 an empty pad", x.count(4), 0);
+        while (x.undo() >= 0) {
+            DUE.is("15 one less at each undo", x.count(2) < 10 ? 1 : 0, 1);
+        }
+        DUE.is("15 no change", x.count(5), 0);
+        DUE.is("15 four travellers", x.count(2), 4);
+        DUE.is("15 the reason", x.count(3), 1);
     }
 }

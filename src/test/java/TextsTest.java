@@ -15,23 +15,9 @@ final class TextsTest {
         DUE.end();
     }
 
-    private static long characters(String text) {
-        long number = 0;
-        for (int i = 0; i < text.length(); i++) {
-            number = number << 8 | text.charAt(i);
-        }
-        return number;
-    }
-
-    private static void write(GateRoads x, String text) {
-        for (int i = 0; i < text.length(); i += 8) {
-            x.put(characters(text.substring(i, Math.min(i + 8, text.length()))));
-        }
-    }
-
     private static void fault(String text, int want) {
         GateRoads x = new GateRoads();
-        write(x, text);
+        Scene.write(x, text);
         DUE.is("27 " + text, x.fault(), want);
         DUE.is("28 " + text, x.carryOut(), want == -6 ? 0 : -3);
         DUE.is("28 the pad of " + text, x.count(4), want == -6 ? 0 : text.length());
@@ -51,16 +37,16 @@ final class TextsTest {
         DUE.is("25 a bit just above", x.put(1L << 16 | 'a'), -2);
         DUE.is("25 a bad code above", x.put(1L << 8 | 'a'), -2);
         DUE.is("25 all bits", x.put(-1), -2);
-        DUE.is("25 a code of 255 at the top", x.put(characters("abcdefgh") | 255L << 56), -2);
+        DUE.is("25 a code of 255 at the top", x.put(Scene.characters("abcdefgh") | 255L << 56), -2);
         DUE.is("25 errors change nothing", x.count(4), 2);
-        DUE.is("25 eight", x.put(characters("abcdefgh")), 10);
+        DUE.is("25 eight", x.put(Scene.characters("abcdefgh")), 10);
         DUE.is("25 no change", x.count(5), 0);
         for (int length = 18; length <= 74; length += 8) {
-            DUE.is("25 up to " + length, x.put(characters("abcdefgh")), length);
+            DUE.is("25 up to " + length, x.put(Scene.characters("abcdefgh")), length);
         }
-        DUE.is("25 81", x.put(characters("abcdefg")), -4);
-        DUE.is("25 BAD_VALUE ahead of TOO_MANY", x.put(characters("abcdef ")), -2);
-        DUE.is("25 80", x.put(characters("abcdef")), 80);
+        DUE.is("25 81", x.put(Scene.characters("abcdefg")), -4);
+        DUE.is("25 BAD_VALUE ahead of TOO_MANY", x.put(Scene.characters("abcdef ")), -2);
+        DUE.is("25 80", x.put(Scene.characters("abcdef")), 80);
         DUE.is("25 81", x.put('a'), -4);
         DUE.is("25 BAD_VALUE ahead of TOO_MANY", x.put(0), -2);
         DUE.is("25 still 80", x.count(4), 80);
@@ -69,12 +55,12 @@ final class TextsTest {
     private static void wipe() {
         GateRoads x = new GateRoads();
         DUE.is("26 empty", x.wipe(), 0);
-        write(x, "w0+5;w0+");
+        Scene.write(x, "w0+5;w0+");
         DUE.is("26 eight", x.wipe(), 8);
         DUE.is("26 empty then", x.wipe(), 0);
         DUE.is("26 empty then", x.count(4), 0);
         DUE.is("26 no change", x.count(5), 0);
-        write(x, "w0+5");
+        Scene.write(x, "w0+5");
         DUE.is("26 nothing of the old text", x.fault(), -6);
     }
 
@@ -173,7 +159,7 @@ final class TextsTest {
         GateRoads x = new GateRoads();
         x.road(0, 1, 20);
         x.traveller(0, 480);
-        write(x, "w0+10;g0>0;w0+5;x0:600-700;x0:2879-2880");
+        Scene.write(x, "w0+10;g0>0;w0+5;x0:600-700;x0:2879-2880");
         DUE.is("28 five", x.carryOut(), 5);
         DUE.is("28 its time", x.ofTraveller(0, 1), 515);
         DUE.is("28 its place", x.ofTraveller(0, 0), 1);
@@ -197,15 +183,15 @@ final class TextsTest {
     private static void carryOutSpans() {
         GateRoads x = new GateRoads();
         x.road(0, 1, 20);
-        write(x, "s0:2300-2400,0000-0100,1200-1230!");
+        Scene.write(x, "s0:2300-2400,0000-0100,1200-1230!");
         DUE.is("28 one", x.carryOut(), 1);
         int[] spans = {1, 3, 0, 60, 720, 750, 1380, 1440};
         for (int i = 0; i < spans.length; i++) {
             DUE.is("28 spans in the order of the day", x.ofRoad(0, 3 + i), spans[i]);
         }
-        write(x, "s0:0900-1000,0800-0900");
+        Scene.write(x, "s0:0900-1000,0800-0900");
         DUE.is("28 side by side", x.carryOut(), 1);
-        write(x, "s0:0800-0900,0900-1000");
+        Scene.write(x, "s0:0800-0900,0900-1000");
         DUE.is("28 side by side", x.carryOut(), 1);
         DUE.is("28 not strict", x.ofRoad(0, 3), 0);
         DUE.is("28 two", x.ofRoad(0, 4), 2);
@@ -213,7 +199,7 @@ final class TextsTest {
         String[] bad = {"s0:0800-0800!", "s0:0900-0800!", "s0:2400-2400!", "s0:0100-0200,0159-0300!", "s1:0100-0200!",
             "s0:0000-0100,0200-0300,0030-0040!", "s2880:0100-0200!", "s0:0000-0100,0300-0200!"};
         for (String text : bad) {
-            write(x, text);
+            Scene.write(x, text);
             DUE.is("28 none is carried out of " + text, x.carryOut(), 0);
             DUE.is("28 the pad is empty after " + text, x.count(4), 0);
             DUE.is("28 nothing of it is done, " + text, x.ofRoad(0, 5), 480);
@@ -227,7 +213,7 @@ final class TextsTest {
         GateRoads x = new GateRoads();
         x.road(0, 1, 20);
         x.traveller(0, 100);
-        write(x, "w0+5;g0>0;g0>0;x0:1-2");
+        Scene.write(x, "w0+5;g0>0;g0>0;x0:1-2");
         DUE.is("28 up to the one that is refused", x.carryOut(), 2);
         DUE.is("28 what was carried out stays", x.ofTraveller(0, 1), 125);
         DUE.is("28 what comes behind it is not", x.count(1), 0);
@@ -235,10 +221,10 @@ final class TextsTest {
         DUE.is("28 the pad is empty", x.wipe(), 0);
         x.road(1, 2, 5);
         x.traveller(1, 7);
-        write(x, "g1>1");
+        Scene.write(x, "g1>1");
         DUE.is("28 traveller 1 goes", x.carryOut(), 1);
         DUE.is("28 traveller 1 is there", x.ofTraveller(1, 0), 2);
-        write(x, "g0>1");
+        Scene.write(x, "g0>1");
         DUE.is("28 traveller 0 goes along road 1", x.carryOut(), 1);
         DUE.is("28 traveller 0 is there", x.ofTraveller(0, 1), 130);
         x.undo();
@@ -247,19 +233,19 @@ final class TextsTest {
         String[] none = {"w0+0;w0+1", "w0+1001;w0+1", "w1+1;w0+1", "g1>0;w0+1", "g0>2;w0+1", "x2:0-1;w0+1",
             "x0:5-5;w0+1", "x0:2880-2880;w0+1", "s2:0000-0100;w0+1"};
         for (String text : none) {
-            write(x, text);
+            Scene.write(x, text);
             DUE.is("28 none of " + text, x.carryOut(), 0);
             DUE.is("28 nothing is done of " + text, x.ofTraveller(0, 1), 125);
         }
         for (int i = 0; i < 19; i++) {
             x.close(0, 0, 1);
         }
-        write(x, "x0:5-6;x0:7-8;w0+1");
+        Scene.write(x, "x0:5-6;x0:7-8;w0+1");
         DUE.is("28 the 21st closure", x.carryOut(), 1);
         DUE.is("28 20 closures", x.count(1), 20);
-        write(x, "w0+1000");
+        Scene.write(x, "w0+1000");
         DUE.is("28 too long", x.carryOut(), 1);
-        write(x, "w0+1");
+        Scene.write(x, "w0+1");
         DUE.is("28 too long", x.carryOut(), 0);
         DUE.is("28 its reason", x.count(3), 7);
     }
@@ -267,13 +253,13 @@ final class TextsTest {
     private static void fullPad() {
         GateRoads x = new GateRoads();
         x.traveller(0, 0);
-        write(x, "w0+1;w0+1;w0+1;w0+1;w0+1;w0+1;w0+1;w0+1;w0+1;w0+1;w0+1;w0+1;w0+1;w0+1;w0+1;w0+10");
+        Scene.write(x, "w0+1;w0+1;w0+1;w0+1;w0+1;w0+1;w0+1;w0+1;w0+1;w0+1;w0+1;w0+1;w0+1;w0+1;w0+1;w0+10");
         DUE.is("27 80 characters", x.count(4), 80);
         DUE.is("27 80 characters", x.fault(), -6);
         DUE.is("28 16 orders", x.carryOut(), 16);
         DUE.is("28 16 orders", x.ofTraveller(0, 1), 25);
         DUE.is("28 one change", x.count(5), 2);
-        write(x, "w0+1;w0+1;w0+1;w0+1;w0+1;w0+1;w0+1;w0+1;w0+1;w0+1;w0+1;w0+1;w0+1;w0+1;w0+1;w0+1;");
+        Scene.write(x, "w0+1;w0+1;w0+1;w0+1;w0+1;w0+1;w0+1;w0+1;w0+1;w0+1;w0+1;w0+1;w0+1;w0+1;w0+1;w0+1;");
         DUE.is("27 too early an end at 80", x.fault(), 80);
     }
 }
