@@ -60,7 +60,22 @@ final class FaceTest {
         DUE.is("the class", GateRoads.class.getModifiers(), Modifier.PUBLIC | Modifier.FINAL);
         for (Class<?> inside : GateRoads.class.getDeclaredClasses()) {
             DUE.is(inside + " is static", Modifier.isStatic(inside.getModifiers()) ? 1 : 0, 1);
+            sizes(inside);
         }
+        sizes(GateRoads.class);
+        DUE.is("more than twelve classes", GateRoads.class.getDeclaredClasses().length > 11 ? 1 : 0, 0);
+    }
+
+    /** Seven parameters a method and twenty fields a class, beside its constants, are the most. */
+    private static void sizes(Class<?> type) {
+        for (Method m : type.getDeclaredMethods()) {
+            DUE.is(m + " has more than seven parameters", m.getParameterCount() > 7 ? 1 : 0, 0);
+        }
+        int fields = 0;
+        for (Field f : type.getDeclaredFields()) {
+            fields += Modifier.isStatic(f.getModifiers()) ? 0 : 1;
+        }
+        DUE.is(type + " has more than twenty fields", fields > 20 ? 1 : 0, 0);
     }
 
     private static void same(String what, Set<String> got, Set<String> want) {

@@ -2,6 +2,9 @@
 final class HistoryTest {
     private static final Due DUE = new Due("HistoryTest");
     private static final int NONE = -6;
+    /** Six changes, one of each of six methods. */
+    private static final Scene.Call[] SIX = {x -> x.go(0, 0), x -> x.lift(0), x -> x.room(1, 2, 3, 4), x -> x.restore(1),
+        x -> x.road(7, 6, 1), x -> carryOut(x, "x0:1-2;s0:0001-0002")};
 
     public static void main(String[] args) {
         eachChange();
@@ -17,18 +20,22 @@ final class HistoryTest {
         DUE.end();
     }
 
+    /** All that undo() and restore() give back. */
     private static String told(GateRoads x) {
         return Scene.told(x, false).replaceAll("count [345] .*", "").replaceAll("fault .*", "") + Scene.told(x, true);
     }
 
     /** A change records one state, and undo() gives back all that could be read before it. */
-    private static void change(String what, Scene.Call call) {
-        GateRoads x = small();
-        String before = told(x);
+    private static void change(String what, Scene.Maker maker, Scene.Call call) {
+        GateRoads x = maker.make();
         DUE.is(what + " is right", call.of(x) >= 0 ? 1 : 0, 1);
         DUE.is(what + " is a change", x.count(5), 5);
         DUE.is(what + " undone", x.undo(), 4);
-        DUE.is(what + " undone gives back all", told(x).equals(before) ? 1 : 0, 1);
+        DUE.is(what + " undone gives back all", told(x).equals(told(maker.make())) ? 1 : 0, 1);
+    }
+
+    private static void change(String what, Scene.Call call) {
+        change(what, HistoryTest::small, call);
     }
 
     /** With four changes behind it, so that there is room for one more. */
@@ -43,6 +50,16 @@ final class HistoryTest {
         return x;
     }
 
+    /** With four changes behind it too: three of them are closures. */
+    private static GateRoads closed() {
+        GateRoads x = new GateRoads();
+        x.road(0, 1, 10);
+        for (int closure = 0; closure < 3; closure++) {
+            x.close(0, closure, closure + 1);
+        }
+        return x;
+    }
+
     private static void eachChange() {
         change("2 room", x -> x.room(0, 1, 2, 3));
         change("3 road", x -> x.road(2, 0, 30));
@@ -54,17 +71,9 @@ final class HistoryTest {
         change("10 stay", x -> x.stay(0, 5));
         change("31 restore of another state", x -> x.restore(1));
         change("28 carryOut", x -> carryOut(x, "s0:0100-0200,0300-0400,0500-0600!;x1:0-1;w0+5;g0>0"));
-        GateRoads x = new GateRoads();
-        x.road(0, 1, 10);
         for (int closure = 0; closure < 3; closure++) {
-            x.close(0, closure, closure + 1);
-        }
-        for (int closure = 0; closure < 3; closure++) {
-            String before = told(x);
-            DUE.is("7 lift", x.lift(closure), 2);
-            DUE.is("7 lift is a change", x.count(5), 5);
-            DUE.is("7 lift undone", x.undo(), 4);
-            DUE.is("7 lift undone gives back all", told(x).equals(before) ? 1 : 0, 1);
+            int number = closure;
+            change("7 lift " + number, HistoryTest::closed, x -> x.lift(number));
         }
     }
 
@@ -156,20 +165,23 @@ final class HistoryTest {
         }
     }
 
-    /** Each state in the history is as it was, from the latest to the oldest. */
-    private static void undoAll() {
+    private static GateRoads changed(int changes) {
         GateRoads x = small();
         x.close(1, 5, 6);
-        String[] states = new String[6];
-        Scene.Call[] calls = {y -> y.go(0, 0), y -> y.lift(0), y -> y.room(1, 2, 3, 4), y -> y.restore(1),
-            y -> y.road(7, 6, 1), y -> carryOut(y, "x0:1-2;s0:0001-0002")};
-        for (int i = 0; i < 6; i++) {
-            states[i] = told(x);
-            calls[i].of(x);
+        for (int i = 0; i < changes; i++) {
+            SIX[i].of(x);
         }
-        for (int i = 5; i >= 0; i--) {
-            DUE.is("29 left", x.undo(), i);
-            DUE.is("29 state " + i, told(x).equals(states[i]) ? 1 : 0, 1);
+        return x;
+    }
+
+    /** Each state in the history is as it was, from the latest to the oldest. */
+    private static void undoAll() {
+        for (int undone = 0; undone <= 6; undone++) {
+            GateRoads x = changed(6);
+            for (int i = 1; i <= undone; i++) {
+                DUE.is("29 left", x.undo(), 6 - i);
+            }
+            DUE.is("29 all as it was, " + undone, told(x).equals(told(changed(6 - undone))) ? 1 : 0, 1);
         }
     }
 

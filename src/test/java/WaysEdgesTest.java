@@ -14,9 +14,12 @@ final class WaysEdgesTest {
         onTheRoad();
         latestIsJustThen();
         fewestOfTheEarliest();
+        fewestOfThoseWhoCanWait();
+        notAgainLater();
         entries();
         reachedBy();
         neededByItself();
+        neededInItsTime();
         meetEdges();
         meetByWaiting();
         arrivesAsItHasWaited();
@@ -258,6 +261,58 @@ final class WaysEdgesTest {
         DUE.is("19 one of three as early", x.way(0, 3, 0, 0), 1);
     }
 
+    /** One comes first by more roads, or by fewer and cannot wait so long. */
+    private static void fewestOfThoseWhoCanWait() {
+        GateRoads x = new GateRoads();
+        x.road(0, 1, 5);
+        x.road(1, 2, 5);
+        x.road(0, 2, 20);
+        x.road(2, 3, 5);
+        x.open(3, 100, 200, 0);
+        DUE.is("19 fewer roads come later to 2", x.way(0, 3, 0, 0), 2);
+        DUE.is("19 the lower first road", x.way(0, 3, 0, 1), 0);
+        x.room(0, 0, 0, 0);
+        x.room(1, 0, 0, 0);
+        x.room(2, 0, 1440, 85);
+        DUE.is("19 just so long", x.way(0, 3, 0, 0), 2);
+        DUE.is("19 who came by more roads cannot", x.way(0, 3, 0, 1), 2);
+        x.room(2, 0, 1440, 80);
+        DUE.is("19 as long as it must be", x.way(0, 3, 0, 0), 2);
+        x.room(2, 0, 1440, 79);
+        noWay(x, 0, 3, 0);
+        x.road(0, 2, 6);
+        x.road(4, 2, 40);
+        x.road(0, 4, 40);
+        x.room(2, 0, 1440, 20);
+        DUE.is("19 who came by one road cannot wait", x.way(0, 3, 0, 0), 3);
+        DUE.is("19 three times", x.way(0, 3, 0, 0), 3);
+        x.room(2, 0, 1440, 94);
+        DUE.is("19 nor need it", x.way(0, 3, 0, 0), 2);
+    }
+
+    /** One who cannot wait is not there again, however many minutes later: 512, 1024, 1440 or 2048. */
+    private static void notAgainLater() {
+        for (int later = 1; later <= 2800; later++) {
+            if (Integer.bitCount(later) == 1 || later % 1440 == 0 || later % 1000 == 0) {
+                GateRoads x = new GateRoads();
+                x.road(0, 1, 10);
+                x.road(1, 2, 10);
+                x.room(0, 0, 0, 0);
+                x.room(1, 0, 1440, Math.min(later - 1, 1000));
+                x.close(1, 0, 10 + later);
+                DUE.is("17 a minute too long, " + later, x.earliest(0, 2, 0), NONE);
+                DUE.is("19 a minute too long, " + later, x.way(0, 2, 0, 0), NONE);
+                DUE.is("20 a minute too long, " + later, x.reach(0, 0, 2880), 3);
+                x.road(0, 2, 100);
+                x.close(2, 1, 2880);
+                DUE.is("21 by the other road, " + later, x.needed(0, 2, 0), 4);
+                x.traveller(1, 10);
+                x.traveller(2, 20 + later);
+                DUE.is("22 a minute too long, " + later, x.meet(0, 1, 0), NONE);
+            }
+        }
+    }
+
     /** The earliest and the latest entry: by the time itself, the wait, the span, the closure, and what comes behind. */
     private static void entries() {
         GateRoads x = new GateRoads();
@@ -331,6 +386,20 @@ final class WaysEdgesTest {
         y.open(21, 1, 2, 1);
         DUE.is("21 the last but one", y.needed(0, 1, 0), 1 << 22);
         DUE.is("21 the last one", y.needed(1, 0, 0), 1 << 23);
+    }
+
+    /** A road that could be entered ahead of coming to it is of no use. */
+    private static void neededInItsTime() {
+        for (int ahead = 1; ahead <= 9; ahead++) {
+            GateRoads x = new GateRoads();
+            x.road(0, 1, 10);
+            x.road(1, 2, 10);
+            x.road(1, 2, 10);
+            x.open(1, 10 - ahead, 11 - ahead, 0);
+            x.open(2, 10, 11, 0);
+            DUE.is("21 a road that shuts " + ahead + " ahead", x.needed(0, 2, 0), 5);
+            DUE.is("19 a road that shuts " + ahead + " ahead", x.way(1, 2, 10, 1), 2);
+        }
     }
 
     private static void meetEdges() {
